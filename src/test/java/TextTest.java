@@ -15,6 +15,8 @@ final class TextTest {
         names();
         binding();
         errors();
+        cut();
+        again();
         DUE.end();
     }
 
@@ -168,6 +170,9 @@ final class TextTest {
         fault("law load (((((((((1)))))))));", 2, 17);
         fault("law load " + "not ".repeat(64) + "1;", 2, 9 + 256);
         fault("law load 1" + "+1".repeat(32) + ";", 2, 9 + 64);
+        fault("law load not 1" + "+1".repeat(32) + ";", 2, 9 + 67);
+        fault("law load " + "not ".repeat(65) + "1;", 2, 9 + 256);
+        fault("law load " + "not ".repeat(63) + "(1);law ebb lies;", 2, 9 + 252 + 4 + 8);
         fault("law load 1" + "+1".repeat(31) + "+1;", 2, 9 + 64);
         fault("law load 1" + "+1".repeat(30) + ";law fork 1;law ebb not not 1;", 2, 9 + 61 + 1 + 11 + 16);
         fault("law load 1" + "+1".repeat(30) + ";law fork 1;law ebb 1;law worth 1;law", 1, 9 + 61 + 1 + 11 + 10 + 12 + 3);
@@ -287,6 +292,15 @@ final class TextTest {
         law("lies*100+carts*10+hill", 3032);
         law("hour+got+wants+sort", 0);
         law("0-5", -5);
+        law("1+(not 2)", 1);
+        law("1+(not 0)", 2);
+        law("(1<2)+(3<4)", 2);
+        law("(1<2)<(3<4)", 0);
+        law("3=(1+2)", 1);
+        law("4=5", 0);
+        law("0 or 0", 0);
+        law("1-2*3-4", -9);
+        law("((2-1)*(3+4)-5)*(6-(7-8))", 14);
     }
 
     private static void errors() {
@@ -307,5 +321,84 @@ final class TextTest {
         law("1000*1000*1000*(1000*1000*1000)*(1000*1000)", error);
         law("0/5", 0);
         law("0*(0-3)", 0);
+    }
+
+    /** A text that ends within a word, a number or a sign that goes on behind it on the tape. */
+    private static void cut() {
+        cut("stripes 1;", 6, 1, 6);
+        cut("stripe 9999;", 10, 1, 10);
+        cut("law load 1<=2;", 11, 1, 11);
+        cut("law load 1<>2;", 11, 1, 11);
+        cut("heap 1; stripe 1;", 8, 0, -1);
+        cut("heap 12;", 7, 1, 7);
+    }
+
+    private static void cut(String tape, int n, int kind, int place) {
+        WeedStrand x = new WeedStrand();
+        Due.feed(x, tape);
+        DUE.is("text(" + n + ") of " + tape, x.text(n), kind == 0 ? 1 : -1);
+        DUE.is("fault of " + tape, x.fault(0), kind);
+        DUE.is("place in " + tape, x.fault(1), place);
+    }
+
+    private static final String RICH = "stripe 90;stripe 80;stripe 70;stripe 60;stripe 50;stripe 40;stripe 30;stripe 20;"
+        + "croft a 1 2 0;croft b 2 3 0;croft c 3 4 1;croft d 4 5 2;field a 10 1;field b 20 2;field c 30 3;field d 40 4;"
+        + "field a 50 5;field b 60 6;tide 0;tide 2;tide 4;tide 6;heap 70;rule saved;gale 90 8;seed 777;"
+        + "law load lies/9+1;law fork 7+lies/9;law ebb lies/3;law worth wants-got/2+sort;";
+    private static final String[] LATER = {"", "stripe 9;croft a 1 0 0;field a 9 0;heap 1;tide 1;",
+        "stripe 9;croft z 1 0 0;croft y 1 0 0;field y 9 0;rule lots;gale 50 5;", "gale 60 7;stripe 1;seed 5;", "law ebb 1;heap 2;"};
+
+    /** What was told and done ahead is nothing to a later text. */
+    private static void again() {
+        for (String later : LATER) {
+            WeedStrand x = Due.strand(RICH);
+            Due.tell(x, RICH);
+            x.go(9);
+            x.act(1, 2);
+            x.act(2, 3);
+            x.lend(3, 1);
+            x.lot(0, 3);
+            x.see(1, 1, true);
+            x.known(0);
+            x.keep();
+            Due.tell(x, "croft a 1 1 1;field a 1 1;law load ((1+2);");
+            Due.tell(x, later);
+            WeedStrand fresh = Due.strand(later);
+            same(x, fresh, later);
+            DUE.is("go", x.go(3), fresh.go(3));
+            same(x, fresh, later);
+            DUE.is("came", x.came(0), fresh.came(0));
+            DUE.is("odds", x.odds(1, 0), fresh.odds(1, 0));
+            DUE.is("undo", x.undo(), -1);
+            DUE.is("back", x.back(), -1);
+            DUE.is("lines of a text twice told", Due.tell(x, RICH), 30);
+            WeedStrand rich = Due.strand(RICH);
+            same(x, rich, RICH);
+            DUE.is("go", x.go(30), rich.go(30));
+            same(x, rich, RICH);
+        }
+    }
+
+    private static void same(WeedStrand x, WeedStrand y, String text) {
+        for (int what = 0; what < 15; what++) {
+            DUE.is("count(" + what + ") of " + text, x.count(what), y.count(what));
+        }
+        for (int s = 0; s < y.count(0); s++) {
+            DUE.is("lies " + s + " of " + text, x.stripe(s, 0), y.stripe(s, 0));
+            DUE.is("lot " + s + " of " + text, x.stripe(s, 1), y.stripe(s, 1));
+            DUE.is("ebb " + s + " of " + text, x.law(2, s, 0), y.law(2, s, 0));
+        }
+        for (int c = 0; c < 5; c++) {
+            for (int what = 0; what < 7; what++) {
+                DUE.is("croft(" + c + ", " + what + ") of " + text, x.croft(c, what), y.croft(c, what));
+            }
+            DUE.is("load " + c + " of " + text, x.law(0, c, 0), y.law(0, c, 0));
+            DUE.is("fork " + c + " of " + text, x.law(1, c, 0), y.law(1, c, 0));
+        }
+        for (int f = 0; f < 6; f++) {
+            for (int what = 0; what < 5; what++) {
+                DUE.is("field(" + f + ", " + what + ") of " + text, x.field(f, what), y.field(f, what));
+            }
+        }
     }
 }
