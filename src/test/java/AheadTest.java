@@ -43,6 +43,11 @@ final class AheadTest {
         table(x, 2, 1, 0, 0, 11, 0);
         WeedStrand y = Due.strand("stripe 9;stripe 7;tide 2;gale 100 99;");
         table(y, 1, 3, 0, 7, 0, 0);
+        y.go(3);
+        y.go(20);
+        int lying = y.stripe(0, 0) / 2 + y.stripe(1, 0) / 2;
+        DUE.is("the sea has some", y.count(8) > 0, true);
+        table(y, 1, 4, 0, lying, 0, 0);
         DUE.is("table(3, 1, 0)", x.table(3, 1, 0), -1);
         DUE.is("table(-1, 1, 0)", x.table(-1, 1, 0), -1);
         DUE.is("table(0, -1, 0)", x.table(0, -1, 0), -1);
@@ -81,6 +86,8 @@ final class AheadTest {
             DUE.is("planned(0, 6, " + k + ")", x.planned(0, 6, k), due[k]);
             DUE.is("of several the first", x.planned(0, 2, k), k < 2 ? 1 : -2);
         }
+        DUE.is("planned(0, 1, 0)", x.planned(0, 1, 0), 1);
+        DUE.is("planned(0, 1, 1)", x.planned(0, 1, 1), -2);
         DUE.is("planned(0, 6, 6)", x.planned(0, 6, 6), -2);
         DUE.is("planned(0, 6, -1)", x.planned(0, 6, -1), -1);
         DUE.is("planned(0, 7, 0)", x.planned(0, 7, 0), -1);
@@ -168,6 +175,8 @@ final class AheadTest {
         swap(crofts, -2, -2, -2);
         swap("stripe 9;stripe 1;stripe 9;stripe 4;" + crofts, 0, 1, 3);
         swap("stripe 9;stripe 1;stripe 7;stripe 4;" + crofts, 0, 3, 1);
+        swap("stripe 1;stripe 5;stripe 9;" + crofts, 1, 2, 3);
+        swap("stripe 2;stripe 1;stripe 8;stripe 1;stripe 5;stripe 1;" + crofts, 1, 2, 2);
         WeedStrand x = Due.strand("stripe 10;stripe 4;stripe 2;" + crofts);
         x.swap(0);
         DUE.is("lots stay", x.unlike(), 8);
@@ -232,6 +241,13 @@ final class AheadTest {
         DUE.is("forked in all", y.turn(2, 1), 1);
         DUE.is("the heap then", y.turns(2), 24);
         DUE.is("acts stay", y.croft(0, 3), 2);
+        y.go(1);
+        DUE.is("twice the other", y.turn(2, 0), 1);
+        DUE.is("twice the other", y.turn(2, 1), 1);
+        WeedStrand w = Due.strand("stripe 20;stripe 8;croft a 0 0 0;croft b 0 0 0;rule lots;tide 0;law ebb lies*(lies<9);");
+        DUE.is("b ahead of the tide", w.turns(2), 16);
+        DUE.is("b ahead of the tide", w.turn(2, 0), 1);
+        DUE.is("a behind it", w.turn(2, 1), 0);
         WeedStrand z = Due.strand("stripe 10;croft a 0 0 0;croft b 5 0 0;field b 9 0;tide 0;rule saved;heap 3;");
         DUE.is("others rest, tides take", z.turns(2), 12);
     }

@@ -365,7 +365,7 @@ final class TextTest {
             Due.tell(x, later);
             WeedStrand fresh = Due.strand(later);
             same(x, fresh, later);
-            DUE.is("go", x.go(3), fresh.go(3));
+            DUE.is("go", x.go(30), fresh.go(30));
             same(x, fresh, later);
             DUE.is("came", x.came(0), fresh.came(0));
             DUE.is("odds", x.odds(1, 0), fresh.odds(1, 0));
