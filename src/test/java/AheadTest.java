@@ -271,27 +271,13 @@ final class AheadTest {
         DUE.is("seldom", Due.strand("gale 1 1;").odds(4, 1), 100000000);
     }
 
-    private static int drawn(long seed, int odds, int n, int ahead, int bound) {
-        long number = seed;
-        int reached = 0;
-        for (int i = 0; i < 10; i++) {
-            int gain = ahead;
-            for (int hour = 0; hour < n; hour++) {
-                number = number * 1103515245L + 12345L & 0x7fffffffL;
-                gain += number / 65536 % 100 < odds ? 5 : 0;
-            }
-            reached += gain >= bound ? 1 : 0;
-        }
-        return reached;
-    }
-
     private static void chances() {
         WeedStrand x = Due.strand("stripe 0;croft a 1 0 0;croft b 1 0 0;field a 10 0;gale 40 5;law worth 1;seed 3;");
         for (int seed : new int[] {0, 1, 99999, 2147483647}) {
             for (int n = 1; n < 12; n += 5) {
                 for (int bound = 0; bound <= 30; bound += 5) {
                     DUE.is("chance(" + seed + ", " + n + ", 0, " + bound + ")", x.chance(seed, n, 0, bound),
-                        drawn(seed, 40, n, 0, bound));
+                        Due.drawn(seed, 40, n, 0, bound));
                 }
             }
         }
@@ -312,7 +298,7 @@ final class AheadTest {
             x.chance(5, 3, 0, 1);
         }
         int gain = x.croft(0, 4);
-        DUE.is("gain in all", x.chance(8, 2, 0, gain + 5), drawn(8, 40, 2, gain, gain + 5));
+        DUE.is("gain in all", x.chance(8, 2, 0, gain + 5), Due.drawn(8, 40, 2, gain, gain + 5));
         DUE.is("gain in all", x.chance(8, 2, 0, gain), 10);
     }
 

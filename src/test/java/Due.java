@@ -53,6 +53,21 @@ final class Due {
         }
     }
 
+    /** How many of ten times 5 a gale, n hours each, with the numbers from a seed on, are a bound at least, from a gain on. */
+    static int drawn(long seed, int odds, int n, int gain, int bound) {
+        long number = seed;
+        int reached = 0;
+        for (int i = 0; i < 10; i++) {
+            int then = gain;
+            for (int hour = 0; hour < n; hour++) {
+                number = number * 1103515245L + 12345L & 0x7fffffffL;
+                then += number / 65536 % 100 < odds ? 5 : 0;
+            }
+            reached += then >= bound ? 1 : 0;
+        }
+        return reached;
+    }
+
     /** What text() answers for it. */
     static int tell(WeedStrand x, String text) {
         feed(x, text);

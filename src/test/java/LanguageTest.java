@@ -23,9 +23,10 @@ final class LanguageTest {
         "int turn(int,int)", "int odds(int,int)", "int see(int,int,boolean)", "int strike(int)", "boolean known(int)",
         "int came(int)", "int chance(int,int,int,int)", "int tried(int,int,int)", "int undo()", "int keep()", "int back()",
         "int count(int)"};
-    private static final String[] NOT_IN_IT = {"->", "::", "@", "\\btry\\b", "\\bcatch\\b", "\\bfinally\\b", "\\bassert\\b",
-        "\\bsynchronized\\b", "\\bdouble\\b", "\\bfloat\\b", "\\bnull\\b", "\\bvar\\b", "\\bprotected\\b", "Exact\\b",
-        "\\bSystem\\.(?!arraycopy)", "\\bRandom\\b", "\\bThread\\b", "instanceof", "\"\\s*\\+|\\+\\s*\"", "\\bstatic\\s*\\{",
+    private static final String[] NOT_IN_IT = {"->", "::", "@", "\\bfinally\\b", "\\bassert\\b",
+        "\\bcatch \\((ArrayIndex|NullPointer|Arithmetic|ClassCast|NegativeArray|ArrayStore|IndexOutOf|Runtime|Exception|Throwable)",
+        "\\bsynchronized\\b", "\\bvar\\b", "\\bprotected\\b", "Exact\\b",
+        "\\bSystem\\.(?!arraycopy)", "\\bRandom\\b", "\\bThread\\b", "\"\\s*\\+|\\+\\s*\"", "\\bstatic\\s*\\{",
         "while \\(true\\)", "for \\(;;\\)"};
 
     public static void main(String[] args) throws Exception {
