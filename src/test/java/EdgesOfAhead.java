@@ -79,8 +79,12 @@ final class EdgesOfAhead {
             }
         }
         e.is("plan", x.plan(0, 6), 0);
+        e.is("rests", x.rests(1, 2, 1), 16);
         e.is("rests", x.rests(1, 2, 9), 16);
-        e.is("lending", x.lending(0, 1, 9, 1), 0);
+        for (int what = 0; what < 2; what++) {
+            e.is("lending", x.lending(0, 1, 9, what), 0);
+            e.is("lending", x.lending(1, 2, 99, what), 0);
+        }
         e.is("turns", x.turns(4), 0);
         for (int what = 0; what < 5; what++) {
             e.is("tried", x.tried(what, 0, 9), 0);
@@ -254,6 +258,7 @@ final class EdgesOfAhead {
         e.is("hour 5 is too late", x.rests(0, 1, 9), 16);
         x.go(2);
         restsAre("from hour 2 on", x, 0, 1, 9, 30, 31, 32, 33);
+        restsAre("from hour 2 on, the other way", x, 1, 0, 9, 3, 13, 23, 33);
         x.go(3);
         restsAre("from hour 5 on", x, 0, 1, 1, 0, 1, 2, 3);
     }
@@ -318,6 +323,18 @@ final class EdgesOfAhead {
         x.lot(0, 1);
         x.lot(2, 1);
         e.is("all of one: none", x.swap(0), -2);
+        swapIs("stripe 20;stripe 13;stripe 9;stripe 7;stripe 1;stripe 6;" + two, 2, 3, 0);
+        WeedStrand y = Due.strand("stripe 10;stripe 4;stripe 2;stripe 8;" + two);
+        e.is("none at first", y.swap(0), -2);
+        y.lot(1, 0);
+        int[] due = {0, 3, 4};
+        for (int what = 0; what < 3; what++) {
+            e.is("swap(" + what + ") of lots by call", y.swap(what), due[what]);
+        }
+        WeedStrand z = Due.strand("stripe 9;stripe 0;stripe 9;croft a 2 0 0;croft b 0 0 0;field a 9 0;");
+        e.is("swap at first", z.swap(0), 0);
+        z.go(1);
+        e.is("swap(0) an hour later", z.swap(0), -2);
     }
 
     private void swapLessThanNow() {
@@ -328,6 +345,10 @@ final class EdgesOfAhead {
         swapIs("stripe 10;stripe 4;stripe 0;stripe 6;" + two, -2, -2, -2);
         swapIs("stripe 11;stripe 4;stripe 0;stripe 6;" + two, -2, -2, -2);
         swapIs("stripe 12;stripe 11;stripe 0;stripe 0;" + two, -2, -2, -2);
+        WeedStrand x = Due.strand("stripe 10;stripe 1;stripe 6;stripe 1;" + two);
+        e.is("less than at first", x.swap(2), 4);
+        x.lot(2, 1);
+        e.is("less than at first isn't less than now", x.swap(2), -2);
         swapIs("stripe 12;stripe 10;stripe 1;stripe 0;" + two, 0, 1, 1);
     }
 
@@ -494,6 +515,13 @@ final class EdgesOfAhead {
         e.is("the third doesn't come", four.tried(1, 2, 1), 16);
         WeedStrand w = Due.strand("stripe 99;croft a 5 0 0;field a 9 0;law load carts*10+hill;law worth carts;");
         e.is("six as a name", w.tried(2, 0, 1), 60 * 6);
+        WeedStrand u = Due.strand("stripe 99;croft a 1 0 0;croft b 1 0 0;field a 9 0;field b 9 0;law load 7;law worth 1;");
+        e.is("who doesn't come carts by no law", u.tried(1, 0, 3), 21);
+        WeedStrand t = Due.strand("stripe 16;croft a 1 0 1;croft b 2 0 0;field b 9 0;law worth 1;rule saved;");
+        e.is("who doesn't come forks nothing", t.tried(1, 0, 3), 10);
+        e.is("else it forks", t.table(2, 3, 3), 16);
+        e.is("else it forks", t.table(2, 2, 3), 10);
+        e.is("who doesn't come forks nothing", t.tried(1, 0, 2), 0);
         WeedStrand v = Due.strand("stripe 9;croft a 1 0 1;croft b 1 0 1;field a 9 0;field b 9 0;");
         e.is("a doesn't come later, either", v.tried(1, 0, 2), 45);
         e.is("heap of the hours to come", Due.strand("stripe 8;croft a 2 0 0;field a 9 0;heap 9;rule saved;").tried(4, 0, 2), 72);

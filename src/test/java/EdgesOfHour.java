@@ -525,6 +525,9 @@ final class EdgesOfHour {
         WeedStrand x = behind(1, "stripe 41;croft b 4 5 9;croft a 2 3 0;field b 31 8;field a 32 7;law worth " + law);
         e.is("worth of 0", x.law(3, 0, 0), 83100);
         e.is("worth of 1", x.law(3, 1, 0), 73207);
+        WeedStrand w = behind(1, "stripe 41;croft b 4 5 9;croft a 2 3 0;field a 32 7;field b 31 8;law worth " + law);
+        e.is("worth of 0, of croft 1", w.law(3, 0, 0), 73207);
+        e.is("worth of 1, of croft 0", w.law(3, 1, 0), 83100);
         WeedStrand y = behind(1, "stripe 41;croft a 2 3 0;field a 32 7;law load 3+" + law + "law fork 4+" + law + "law ebb 5+" + law);
         e.is("got", y.field(0, 3), 3);
         e.is("worth", y.field(0, 4), 29);
@@ -639,7 +642,16 @@ final class EdgesOfHour {
         value(most + "*0", 0);
         value("0*(" + most + ")", 0);
         // products that a long brings round to 0, or to little
-        value("8192*8192*8192*(8192*8192)", ERROR);
+        String wide = "(8192*8192*8192)";
+        String negative = "(0-8192*8192*8192)";
+        value(wide + "*(8192*8192)", ERROR);
+        value(negative + "*(8192*8192)", ERROR);
+        value(wide + "*(0-8192*8192)", ERROR);
+        value(negative + "*(0-8192*8192)", ERROR);
+        value("8192*8192*" + wide, ERROR);
+        value("(0-8192*8192)*" + wide, ERROR);
+        value("8192*8192*" + negative, ERROR);
+        value("(0-8192*8192)*" + negative, ERROR);
         value("8192*8192*8192*(4096*8192*1024)", ERROR);
         value("(256*256*256*256+1)*(256*256*256*256)", ERROR);
         value(most + "+(" + most + ")", ERROR);

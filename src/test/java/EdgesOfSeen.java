@@ -87,6 +87,18 @@ final class EdgesOfSeen {
         x.strike(4);
         x.see(4, 17, false);
         e.is("less than 17", x.came(0), hours(2, 23));
+        for (int tons = 0; tons <= 33; tons++) {
+            int bits = 0;
+            for (int hour = 0; hour < 24; hour++) {
+                bits |= 8 * Math.max(0, 4 - hour) >= tons ? 1 << hour : 0;
+            }
+            WeedStrand least = Due.strand(FORKER);
+            least.see(4, tons, true);
+            e.is(tons + " at least", least.came(0), bits);
+            WeedStrand less = Due.strand(FORKER);
+            less.see(4, tons, false);
+            e.is("less than " + tons, less.came(0), ALL & ~bits);
+        }
         WeedStrand y = Due.strand(FORKER);
         y.see(4, 0, true);
         e.is("0 at least", y.came(0), ALL);
@@ -322,6 +334,17 @@ final class EdgesOfSeen {
         }
         e.is("known(24)", x.known(24), true);
         e.is("by four", x.came(0), hours(0, 0));
+        WeedStrand y = Due.strand(FORKER);
+        y.see(4, 8, true);
+        y.known(0);
+        y.see(4, 16, false);
+        y.strike(1);
+        y.known(1);
+        e.is("by the first of three", y.came(0), hours(0, 3));
+        y.known(2);
+        e.is("by two of three", y.came(0), hours(3, 3));
+        y.known(-1);
+        e.is("by all three", y.came(0), hours(0, 3));
     }
 
     private void knownFalse() {

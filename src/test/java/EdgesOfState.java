@@ -222,6 +222,14 @@ final class EdgesOfState {
         e.is("E isn't put to anything", x.law(1, 0, 0), 1002);
         e.is("below 0", Due.strand("stripe 1;croft a 1 1 1;law load 0-7;").law(0, 0, 0), -7);
         e.is("at an empty heap", Due.strand("croft a 1 1 1;law load lies-7;").law(0, 0, -3), -7);
+        x.act(0, 2);
+        x.go(1);
+        // all 50 were forked
+        e.is("load now", x.law(0, 0, 0), 2);
+        e.is("load at the heap now", x.law(0, 0, -3), 562);
+        e.is("fork now", x.law(1, 0, 0), 2);
+        e.is("fork of another stripe now", x.law(1, 0, 1), 802);
+        e.is("ebb now", x.law(2, 0, 0), 0);
     }
 
     private void secondNumberOfLaw() {
@@ -238,6 +246,8 @@ final class EdgesOfState {
         e.is("ebb without crofts", y.law(2, 0, 0), 9);
         WeedStrand z = Due.strand("croft a 1 1 1;field a 3 0;law worth wants;");
         e.is("worth without stripes", z.law(3, 0, 0), 3);
+        WeedStrand w = Due.strand("croft a 1 1 1;field a 3 0;field a 4 0;field a 5 0;law worth wants;");
+        e.is("more fields than crofts", w.law(3, 2, 0), 5);
     }
 
     private void noSuchLaw() {
@@ -274,6 +284,8 @@ final class EdgesOfState {
             e.is("ebb of stripe " + which, x.law(2, which, 0), ERROR);
         }
         e.is("fields aren't counted as stripes", x.law(3, 2, 0), ERROR);
+        WeedStrand y = Due.strand("croft a 1 1 1;croft b 1 1 1;field a 3 0;law worth wants;");
+        e.is("fewer fields than crofts", y.law(3, 1, 0), ERROR);
     }
 
     // ---- changes
@@ -398,9 +410,13 @@ final class EdgesOfState {
         e.is("to its first", x.lend(2, 3), true);
         carts("then", x, 0, 5, 4, 1);
         e.is("on to another", x.lend(3, 0), true);
+        e.is("none to one that has 5 by that", x.lend(2, 1), false);
         carts("then", x, 1, 5, 4, 0);
         x.go(99);
         carts("for good", x, 1, 5, 4, 0);
+        e.is("to one that had 5", x.lend(0, 2), true);
+        carts("then", x, 0, 5, 5, 0);
+        e.is("from one that had 1", x.lend(0, 3), false);
     }
 
     private void noLend() {

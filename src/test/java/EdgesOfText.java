@@ -8,7 +8,7 @@ final class EdgesOfText {
     private static final String[] NAMES = {"lies", "carts", "hill", "hour", "got", "wants", "sort"};
     private static final String[] JOINING = {"not", "and", "or"};
     private static final String[] SIGNS = {"<", "<=", "=", "<>", ">=", ">", "+", "-", "*", "/"};
-    private static final String[] LIMITED_ONCE = {"heap 1", "rule free", "gale 1 1", "seed 1"};
+    private static final String[] ONCE = {"heap 1", "rule free", "gale 1 1", "seed 1"};
 
     private final Edges e;
 
@@ -708,10 +708,10 @@ final class EdgesOfText {
 
     private void onceToldAlready() {
         e.by(TERMS, "heap, rule, gale, seed (at the word),");
-        for (String one : LIMITED_ONCE) {
+        for (String one : ONCE) {
             e.fault(3, one + ";^" + one + ";");
             e.fault(3, one + ";^" + one.substring(0, 4));
-            for (String other : LIMITED_ONCE) {
+            for (String other : ONCE) {
                 if (!one.equals(other)) {
                     e.told(2, one + ";" + other + ";");
                     e.fault(3, one + ";" + other + ";^" + one + ";");
@@ -896,14 +896,15 @@ final class EdgesOfText {
 
     private void textsBehindTexts() {
         e.by("Promise 3", "first n bytes (it is empty then) are the TEXT (HOUR 0, ACTS 0, nothing SEEN,");
-        WeedStrand x = new WeedStrand();
         for (String faulty : WITH_FAULTS) {
+            WeedStrand x = new WeedStrand();
             e.is("much", Due.tell(x, MUCH), 30);
             e.is("a fault", Due.tell(x, faulty), -1);
             e.is("nothing", Due.tell(x, ""), 0);
             for (int what = 0; what <= 14; what++) {
                 e.is("count(" + what + ") of nothing", x.count(what), 0);
             }
+            e.is("odds of nothing", x.odds(1, 0), 0);
             e.is("much", Due.tell(x, MUCH), 30);
             e.is("much once more", Due.tell(x, MUCH), 30);
             e.is("a fault", Due.tell(x, faulty), -1);
@@ -921,6 +922,7 @@ final class EdgesOfText {
             e.lies("then", x, 0);
             e.is("gain", x.croft(0, 4), 28);
             e.is("one law", Due.tell(x, "stripe 9;law ebb 1<2 and 2<3;"), 2);
+            e.is("no odds", x.odds(1, 0), 0);
             e.is("its knots", x.count(4), 7);
             e.is("its value", x.law(2, 0, 0), 1);
             e.is("a gale without a seed", Due.tell(x, "stripe 9;gale 1 1;"), 2);

@@ -118,12 +118,21 @@ final class EdgesOfUndo {
         e.is("the act ahead of it", y.croft(0, 3), 1);
     }
 
+    /** What can be changed by call of two stripes and two crofts, as one number. */
+    private static int choices(WeedStrand x) {
+        int all = x.count(11);
+        for (int i = 0; i < 2; i++) {
+            all = ((all * 10 + x.stripe(i, 1)) * 10 + x.croft(i, 3)) * 10 + x.croft(i, 0);
+        }
+        return all;
+    }
+
     private void twentyAtMost() {
         e.by(TERMS, "(20 at most),");
         WeedStrand x = Due.strand(TEXT);
-        String[] looks = new String[25];
+        int[] looks = new int[25];
         for (int i = 0; i < 25; i++) {
-            looks[i] = look(x);
+            looks[i] = choices(x);
             switch (i % 4) {
                 case 0 -> e.is("change " + i, x.act(i / 4 % 2, 1 + i / 8 % 3), true);
                 case 1 -> e.is("change " + i, x.rule((x.count(11) + 1) % 3), true);
@@ -134,10 +143,10 @@ final class EdgesOfUndo {
         }
         for (int i = 24; i >= 5; i--) {
             e.is("undo " + i, x.undo(), i - 5);
-            same("as ahead of change " + i, look(x), looks[i]);
+            e.is("as ahead of change " + i, choices(x), looks[i]);
         }
         e.is("no more", x.undo(), -1);
-        same("the first five stay", look(x), looks[5]);
+        e.is("the first five stay", choices(x), looks[5]);
     }
 
     private void noHourSince() {
@@ -371,6 +380,10 @@ final class EdgesOfUndo {
         e.is("by none", x.count(13), 0);
         String full = "stripe 999;".repeat(8) + "croft a 1 1 1;croft b 1 1 1;croft c 1 1 1;croft d 1 1 1;" + "field a 1 1;".repeat(6)
             + "tide 0;tide 1;tide 2;tide 23;heap 999;";
+        WeedStrand z = Due.strand("stripe 99;croft a 1 0 0;" + "field a 9 0;".repeat(6) + "law worth 10-got;");
+        z.go(6);
+        e.is("all of six fields", z.count(9), 30);
+        e.is("all lies", z.count(6), 69);
         int[] most = {8, 4, 6, 4, 0, 0, 7992, 999};
         WeedStrand y = Due.strand(full);
         for (int what = 0; what < most.length; what++) {

@@ -8,7 +8,6 @@ final class UndoTest {
         each();
         latestFirst();
         twentyAtMost();
-        manyOfAllKinds();
         hoursClear();
         falseIsNothing();
         images();
@@ -74,26 +73,6 @@ final class UndoTest {
         DUE.is("the rule stays", x.count(11), 1);
         DUE.is("the lot stays", x.stripe(0, 1), 1);
         DUE.is("the cart stays", x.croft(0, 0), 1);
-    }
-
-    private static void manyOfAllKinds() {
-        WeedStrand x = Due.strand("croft a 2 0 0;croft b 2 0 0;croft c 2 0 0;" + "stripe 1;".repeat(8));
-        long[] looks = new long[33];
-        for (int i = 0; i < 32; i++) {
-            looks[i] = look(x);
-            boolean done = switch (i % 4) {
-                case 0 -> x.act(i / 4 % 3, (x.croft(i / 4 % 3, 3) + 1 + i % 3) % 4);
-                case 1 -> x.lot(i / 4, (x.stripe(i / 4, 1) + 1) % 3);
-                case 2 -> x.rule((x.count(11) + 1) % 3);
-                default -> x.lend(i / 4 % 3, (i / 4 + 1) % 3);
-            };
-            DUE.is("change " + i, done, true);
-        }
-        for (int i = 31; i > 11; i--) {
-            DUE.is("undo " + i, x.undo(), i - 12);
-            DUE.is("as ahead of change " + i, look(x), looks[i]);
-        }
-        DUE.is("no more", x.undo(), -1);
     }
 
     private static void hoursClear() {
